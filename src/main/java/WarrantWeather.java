@@ -401,8 +401,11 @@ public final class WarrantWeather {
         int best = NONE;
         int most = 0;
         for (int i = 0; i < law.clauses; i++) {
-            court.leftOut = law.clauseAt(i);
-            int more = court.tally(NONE, 0, DAYS - 1, false) - asItIs;
+            int clause = law.clauseAt(i);
+            court.leftOut = clause;
+            // No GAIN goes by warrant or toll: a tally without them would be the same.
+            boolean same = clause == WARRANT || clause == TOLL;
+            int more = same ? 0 : court.tally(NONE, 0, DAYS - 1, false) - asItIs;
             if (more > most) {
                 most = more;
                 best = i;
@@ -816,18 +819,14 @@ public final class WarrantWeather {
             return clause >= 0 && clause < CLAUSES ? stops[clause] : 0;
         }
 
-        int codeAt(int i) {
-            return i >= 0 && i < code.length ? code[i] : 0;
-        }
-
         int clauseAt(int i) {
             return within(i, clauses) && i < CLAUSES ? order[i] : NONE;
         }
 
         boolean asks(int clause, int name) {
-            int stop = stopOf(clause);
-            for (int i = startOf(clause); i < stop; i++) {
-                if (codeAt(i) == -1 - name) {
+            int stop = Math.min(code.length, stopOf(clause));
+            for (int i = Math.max(0, startOf(clause)); i < stop; i++) {
+                if (code[i] == -1 - name) {
                     return true;
                 }
             }
@@ -980,7 +979,7 @@ public final class WarrantWeather {
                 at++;
             }
             if (kind() != OPEN) {
-                int fault = faultOfPlain();
+                int fault = faultOfPlain(kind(), value());
                 if (fault != 0) {
                     return wrong(fault);
                 }
@@ -1003,11 +1002,11 @@ public final class WarrantWeather {
         }
 
         /** 0 where a NUMBER or a NAME of this CLAUSE stands. */
-        private int faultOfPlain() {
-            int name = kind() - DAY;
-            if (kind() == NUMBER) {
-                return value() > MOST_NUMBER ? FAULT_NUMBER : 0;
+        private int faultOfPlain(int kind, int value) {
+            if (kind == NUMBER) {
+                return value > MOST_NUMBER ? FAULT_NUMBER : 0;
             }
+            int name = kind - DAY;
             if (name < 0 || name >= NAME_IS_OF.length) {
                 return FAULT_PLACE;
             }
@@ -1061,16 +1060,16 @@ public final class WarrantWeather {
 
         /** A SUM's number, or 1 or 0 of an EITHER; 0 without such a CLAUSE. */
         int run(Law law, int clause) {
+            int[] codes = law.code;
+            int stop = Math.min(codes.length, law.stopOf(clause));
             int top = 0;
-            int stop = law.stopOf(clause);
-            for (int i = law.startOf(clause); i < stop; i++) {
-                int code = law.codeAt(i);
-                int kind = -1 - code;
-                if (code >= 0 || within(kind - DAY, NAMES)) {
+            for (int i = Math.max(0, law.startOf(clause)); i < stop; i++) {
+                int kind = -1 - codes[i];
+                if (kind < 0 || kind >= DAY && kind < DAY + NAMES) {
                     if (top >= stack.length) {
                         return 0;
                     }
-                    stack[top] = code >= 0 ? code : told[kind - DAY];
+                    stack[top] = kind < 0 ? codes[i] : told[kind - DAY];
                     top++;
                 } else if (kind == NOT || kind == NEGATE) {
                     if (top < 1) {
