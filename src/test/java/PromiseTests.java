@@ -236,6 +236,11 @@ public final class PromiseTests {
         fault("gains 1;", 1, 0);
         fault("Gain 1;", 1, 0);
         fault("gain Day;", 1, 5);
+        fault("gain dayz;", 1, 5);
+        fault("gain dayA;", 1, 5);
+        fault("gain dayZ;", 1, 5);
+        fault("gain daya;", 1, 5);
+        fault("gain day_;", 1, 8);
         fault("gain 1 2;", 1, 7);
         fault("gain 1 20000;", 1, 7);
         fault("gain 1+;", 1, 7);
@@ -399,6 +404,8 @@ public final class PromiseTests {
         holds("1=2 or 1=1 and 1=2 or 2=3", 0);
         holds("1=2 or 1=2 or 1=1", 1);
         holds("not 1=2 and 1=2", 0);
+        holds("not 2=1", 1);
+        holds("not 1=2 and 1=1", 1);
         holds("not 1=1 or 1=1", 1);
         holds("not not 1=1", 1);
         holds("not not not 1=1", 0);
@@ -619,6 +626,12 @@ public final class PromiseTests {
         due(21, "by the true sky", z.led(0, 0), 11);
         z.by(NONE);
         due(21, "without a text", z.led(0, 0), NONE);
+        WarrantWeather w = ruledBy("gain wet-decree;");
+        w.folk(1, 0, 0);
+        w.sky(4, 9);
+        due(21, "truly, not by paper", w.led(0, 0), NONE);
+        w.decree(0, 1, true);
+        due(21, "1 at least", w.led(0, 0) * 100 + w.led(0, 1), 1);
     }
 
     private static void odds() {
@@ -644,6 +657,8 @@ public final class PromiseTests {
         x.decree(2, 0, true);
         due(22, "nobody does by any: 3 by 15", x.odds(2, 0, 0) * 100 + x.odds(2, 0, 1), 316);
         due(22, "where nobody is", x.odds(2, 3, 0) * 100 + x.odds(2, 3, 1), 316);
+        WarrantWeather y = ruledBy("does sky>4;");
+        due(22, "where nobody is yet", y.odds(0, 0, 0) * 10 + y.odds(0, 0, 1), 12);
         int[][] others = {{-1, 0, 0}, {30, 0, 0}, {0, -1, 0}, {0, 4, 0}, {0, 0, -1}, {0, 0, 2}};
         for (int[] o : others) {
             due(22, "others", x.odds(o[0], o[1], o[2]), NONE);
@@ -685,6 +700,8 @@ public final class PromiseTests {
         z.folk(1, 0, 0);
         due(23, "its folk alone", z.plan(2, 20, 10, NONE), 20);
         due(23, "all wet", z.plan(2, 20, 10, 9), 1);
+        due(23, "fewer days behind more", z.plan(2, 20, 3, NONE), 6);
+        due(23, "another province behind it", z.plan(1, 20, 3, NONE), 3);
     }
 
     private static void found() {
@@ -703,6 +720,10 @@ public final class PromiseTests {
         x.decree(21, 1, true);
         due(24, "by last", x.found(1, 0), 21);
         due(24, "by last", x.found(1, 1), 11);
+        x.sky(28, 7);
+        x.sky(27, 7);
+        x.decree(29, 3, true);
+        due(24, "the last day", x.found(3, 0) * 100 + x.found(3, 1), 2928);
         x.decree(1, 2, true);
         due(24, "day 0 has 0 and 0", x.found(2, 0) * 10 + x.found(2, 1), 10);
         due(24, "others", x.found(-1, 0), NONE);
@@ -742,6 +763,18 @@ public final class PromiseTests {
         WarrantWeather w = ruledBy("gain decree*999+wet; toll (1-mine)*5000;");
         w.folk(1, 0, 0);
         due(25, "either is the same", w.even(0, NONE), 2);
+        WarrantWeather v = ruledBy("gain decree*999; toll mine*-5000;");
+        v.folk(1, 0, 0);
+        due(25, "either is the same", v.even(0, NONE), 2);
+        WarrantWeather t = ruledBy("gain (1-decree)*5;");
+        t.folk(0, 0, 0);
+        due(25, "sunny in province 0", t.even(0, NONE) * 100 + t.even(0, 1), 802);
+        WarrantWeather s = ruledBy("toll mine*(others-3);");
+        int[] alone = {0, 1, 2, 4, 8};
+        due(25, "one at most", s.even(0, NONE), 5);
+        for (int i = 0; i < alone.length; i++) {
+            due(25, "one at most", s.even(0, i), alone[i]);
+        }
     }
 
     private static void flood() {
@@ -790,6 +823,17 @@ public final class PromiseTests {
         due(27, "none helps", v.reform(0), NONE);
         due(27, "none helps", v.reform(1), NONE);
         due(27, "all as it was", v.gain(0, 0, false), 5);
+        WarrantWeather u = ruledBy("gain 0-wet;");
+        u.folk(0, 0, 0);
+        u.decree(0, 0, true);
+        u.decree(1, 0, true);
+        due(27, "truly, not by paper", u.reform(0), NONE);
+        u.sky(7, 6);
+        due(27, "1 at least", u.reform(0) * 10 + u.reform(1), 1);
+        WarrantWeather t = ruledBy("gain wet*5; fine 1;");
+        t.folk(0, 0, 0);
+        t.decree(0, 0, true);
+        due(27, "truly without fine", t.reform(0) * 100 + t.reform(1), 130);
     }
 
     private static void sing() {
@@ -814,6 +858,10 @@ public final class PromiseTests {
         due(28, "the tape stays", x.about(5), 9);
         due(28, "skies stay", x.of(28, 0, 0), 1);
         due(28, "just so", x.sing(27, 0), 3);
+        x.sky(2, 8);
+        tape(x, "ab cd");
+        x.sing(0, 3);
+        due(28, "no day behind them", x.of(2, 0, 0), 8);
         String[] none = {"ab Cd", "ab\ncd", "ab1", "ab-cd", "ab `", "ab {", "ab" + (char) 0, "ab" + (char) 225};
         for (String signs : none) {
             tape(x, signs);
