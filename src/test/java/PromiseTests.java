@@ -1,47 +1,11 @@
 /** Each promise of the document by answers worked out by hand: ordinary calls, edges, wrong inputs. */
-public final class PromiseTests {
-    private static final int NONE = WarrantWeather.NONE;
-    private static final int LEAST = Integer.MIN_VALUE;
-    private static final int MOST = Integer.MAX_VALUE;
-    private static int wrong;
-    private static int asked;
-
+public final class PromiseTests extends Checks {
     private static void due(int promise, String what, long got, long want) {
-        asked++;
-        if (got != want) {
-            wrong++;
-            System.out.println("promise " + promise + ", " + what + ": answered " + got + ", due is " + want);
-        }
+        due("promise " + promise + ", " + what, got, want);
     }
 
     private static void due(int promise, String what, boolean got, boolean want) {
-        due(promise, what, got ? 1 : 0, want ? 1 : 0);
-    }
-
-    /** Makes the tape these signs alone. */
-    private static void tape(WarrantWeather x, String signs) {
-        x.end(0);
-        for (int from = 0; from < signs.length(); from += 20) {
-            int[] w = new int[5];
-            for (int k = 0; k < 20; k++) {
-                int sign = from + k < signs.length() ? signs.charAt(from + k) : ' ';
-                w[k / 4] = w[k / 4] << 8 | sign;
-            }
-            x.feed(w[0], w[1], w[2], w[3], w[4]);
-        }
-        x.end(signs.length());
-    }
-
-    private static int text(WarrantWeather x, String signs) {
-        tape(x, signs);
-        return x.text();
-    }
-
-    /** A new object that is ruled by this text. */
-    private static WarrantWeather ruledBy(String signs) {
-        WarrantWeather x = new WarrantWeather();
-        x.by(text(x, signs));
-        return x;
+        due("promise " + promise + ", " + what, got, want);
     }
 
     private static void newObject() {
@@ -1033,9 +997,6 @@ public final class PromiseTests {
         image();
         imageOfSteps();
         about();
-        System.out.println(asked + " answers, " + wrong + " of them not as due");
-        if (wrong != 0) {
-            System.exit(1);
-        }
+        tellAll();
     }
 }
