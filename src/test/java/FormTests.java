@@ -16,7 +16,10 @@ import javax.tools.JavaCompiler;
 import javax.tools.StandardJavaFileManager;
 import javax.tools.ToolProvider;
 
-/** The class's face as the document writes it, and the rules of LANGUAGE.md that can be looked up in the source. */
+/**
+ * The class's face as the document writes it, and the rules of LANGUAGE.md that can be looked up in the source. Some are
+ * kept more narrowly than they are written (no while, no object made by a call), for the class needs no more.
+ */
 public final class FormTests {
     private static final String SOURCE = "src/main/java/WarrantWeather.java";
     private static final String FACE = "folk(int,int,int)int sky(int,int)boolean skies(int)int "
@@ -83,6 +86,7 @@ public final class FormTests {
         final CompilationUnitTree unit;
         final Map<String, Set<String>> calls = new TreeMap<>();
         final Set<String> exposed = new TreeSet<>();
+        final Set<String> recursive = new TreeSet<>();
         int classes;
         int loops;
         private String method = "";
@@ -117,8 +121,15 @@ public final class FormTests {
         }
 
         @Override
+        public Void visitPackage(PackageTree tree, Void none) {
+            rule(1, false, "a package line");
+            return super.visitPackage(tree, none);
+        }
+
+        @Override
         public Void visitClass(ClassTree tree, Void none) {
             classes++;
+            rule(2, method.isEmpty() && tree.getKind() == Tree.Kind.CLASS, tree.getSimpleName() + " is no class of its own");
             int fields = 0;
             for (Tree member : tree.getMembers()) {
                 boolean isStatic = member instanceof VariableTree v
@@ -144,6 +155,7 @@ public final class FormTests {
                 rule(11, line(to) - line(from) < 60, method + " is long");
             }
             rule(11, tree.getParameters().size() <= 7, method + " takes too many");
+            rule(6, !Set.of("equals", "hashCode", "toString").contains(tree.getName().toString()), method);
             if (element.getModifiers().contains(javax.lang.model.element.Modifier.PUBLIC)) {
                 exposed.add(method);
             }
@@ -189,10 +201,43 @@ public final class FormTests {
         @Override
         public Void visitVariable(VariableTree tree, Void none) {
             Element element = trees.getElement(getCurrentPath());
-            if (element.getKind() == ElementKind.FIELD && tree.getInitializer() == null) {
-                rule(5, !element.getModifiers().contains(javax.lang.model.element.Modifier.STATIC), tree.toString());
+            boolean isStatic = element.getModifiers().contains(javax.lang.model.element.Modifier.STATIC);
+            String type = element.asType().toString();
+            rule(3, type.matches("(int|long|char|boolean)|int\\[\\]|java.lang.String|WarrantWeather\\.\\w+(\\[\\])?"), tree.toString());
+            if (element.getKind() == ElementKind.FIELD && isStatic) {
+                rule(5, tree.getInitializer() != null, tree.toString());
+                rule(5, !type.endsWith("[]") || tree.getInitializer() instanceof NewArrayTree made
+                        && made.getInitializers() != null, tree.toString());
+                rule(5, type.matches("int|java.lang.String|int\\[\\]"), tree.toString());
             }
             return super.visitVariable(tree, none);
+        }
+
+        @Override
+        public Void visitAssignment(AssignmentTree tree, Void none) {
+            if (tree.getVariable() instanceof ArrayAccessTree row) {
+                Element element = trees.getElement(new TreePath(getCurrentPath(), row.getExpression()));
+                rule(5, element == null || !element.getModifiers().contains(javax.lang.model.element.Modifier.STATIC),
+                        "a constant's row is changed: " + tree);
+            }
+            return super.visitAssignment(tree, none);
+        }
+
+        @Override
+        public Void visitBinary(BinaryTree tree, Void none) {
+            for (Tree side : List.of(tree.getLeftOperand(), tree.getRightOperand())) {
+                String type = String.valueOf(trees.getTypeMirror(new TreePath(getCurrentPath(), side)));
+                rule(10, !type.equals("java.lang.String"), "texts are joined or compared: " + tree);
+            }
+            return super.visitBinary(tree, none);
+        }
+
+        /** A constructor may set fields of its own, but hands itself to nobody. */
+        @Override
+        public Void visitIdentifier(IdentifierTree tree, Void none) {
+            boolean isField = getCurrentPath().getParentPath().getLeaf() instanceof MemberSelectTree;
+            rule(12, !tree.getName().contentEquals("this") || isField, "an object hands itself out in " + method);
+            return super.visitIdentifier(tree, none);
         }
 
         @Override
@@ -208,7 +253,9 @@ public final class FormTests {
             int most = 0;
             open.add(from);
             for (String to : calls.getOrDefault(from, Set.of())) {
-                if (!open.contains(to)) {
+                if (open.contains(to)) {
+                    recursive.add(to);
+                } else {
                     most = Math.max(most, deepest(to, open));
                 }
             }
@@ -231,6 +278,8 @@ public final class FormTests {
                 int deep = looker.deepest(method, new HashSet<>());
                 rule(11, deep <= 8, method + " goes " + deep + " deep");
             }
+            // Their depth is carried: readSum and readOne by what stands open (8), follow by the day of a plan (10).
+            rule(8, Set.of("Reader.readSum", "Planner.follow").equals(looker.recursive), "recursion: " + looker.recursive);
             rule(0, looker.exposed.size() == 32 && looker.loops > 20, "the source was looked at");
         }
         for (byte b : Files.readAllBytes(new File(SOURCE).toPath())) {

@@ -208,9 +208,13 @@ public final class PromiseEdgeTests extends Checks {
             is("empty then", x.about(5), 0);
         }
         sentence(10, "NONE: it has a FAULT; or (the tape stays) there are 4.");
-        tape(x, "gain 4;");
-        changesNothing(said + "without a fault", x, WarrantWeather::text, NONE);
-        changesNothing(said + "with a fault", x, y -> text(y, "gain !;"), NONE);
+        for (String fifth : new String[] {"", "gain 4;", "gain !;"}) {
+            WarrantWeather full = withTexts(4);
+            tape(full, fifth);
+            changesNothing(said + "'" + fifth + "'", full, WarrantWeather::text, NONE);
+        }
+        tape(x, "gain !;");
+        is("no fifth", x.text(), NONE);
         x.back();
         is("the tape stayed, and is read now", x.text() * 100 + x.fault(1), -100 + 5);
         is("empty with a fault, too", x.about(5), 0);
@@ -221,7 +225,7 @@ public final class PromiseEdgeTests extends Checks {
         }
         is("with a fault there may be more", text(z, "gain !;"), NONE);
         is("a fourth", text(z, "gain 1;"), 3);
-        is("no fifth", text(z, "gain 1;"), NONE);
+        is("and no fifth", text(z, "gain 1;"), NONE);
     }
 
     private static WarrantWeather faulty() {

@@ -204,6 +204,8 @@ public final class TermEdgeTests extends Checks {
             is("the last of " + bytes + " counts", y.gain(0, 0, false), 2);
             fault("gain 1" + " ".repeat(bytes - 6), 1, bytes);
         }
+        WarrantWeather most = ruledBy("gain1" + "+1".repeat(147) + ";", 1, 0, 0, 0);
+        is("300 bytes, nearly each a token", most.gain(0, 0, false), 148);
     }
 
     private static final String TOKENS = "TOKENS, blanks (32, 10) aside: letters a .. z, A .. Z one behind the other "
@@ -438,6 +440,8 @@ public final class TermEdgeTests extends Checks {
         holds("-(9999*9999)=-1000*1000");
         holds("-(-9999*9999)=1000*1000");
         holds("9999*9999-9999*9999=0");
+        holds("-7=0-7 and --7=7 and ---7=0-7 and ----7=7");
+        holds("--------7=7 and -------7=0-7 and 1--7=8 and 1---7=-6");
         holds("1=1 or 1/0=1");
         holds("1/0=1 or 1=1");
         holds("not 1/0=1 and 1=1");
@@ -878,6 +882,11 @@ public final class TermEdgeTests extends Checks {
         WarrantWeather appeal = ruledBy("fine 1; appeal 1=1; gain 2;", 1, 0, 0, 0);
         is("an appeal that helps stays", appeal.reform(0), NONE);
         is("and all is as it was", appeal.sum(NONE, 0, 29, false), 60);
+        WarrantWeather kept = ruledBy("warrant 1=1; does 1=1; gain act; toll mine;", 1, 0, 0, 0);
+        kept.reform(0);
+        is("no clause has gone: toll", kept.even(0, NONE) * 100 + kept.even(0, 0), 115);
+        is("does and gain", kept.gain(0, 0, false), 1);
+        is("warrant", kept.warrant(0, 29), 120);
     }
 
     private static void songs() {
