@@ -821,7 +821,45 @@ public final class ModelTests {
             return of[random.nextInt(of.length)];
         }
 
+        /** For each # a digit is drawn, for all @ of a clause one, which is not 0. */
+        private static final String[][] TELLING = {
+            {"warrant seen>#", "warrant seen+last*#>#+province", "warrant seen*@-seen*@/10*10>4", "warrant sky>4 and last=0",
+                "warrant not last=1 and day-day/@*@=1", "warrant seen=# or seen=# or province=#"},
+            {"does sky+fear*decree>#+2", "does sky>=fear", "does day+trade-(day+trade)/3*3<sky/3 or decree=1 and fear>#",
+                "does sky-trade>-# and sky-trade<#", "does decree=1 and sky>fear or decree=0 and sky>#"},
+            {"gain (2*decree-1)*(day*@+sky-(day*@+sky)/11*11-5)*(1+trade)", "gain act*(wet*9-#)-(1-act)*wet*#",
+                "gain (decree*#-#)*(day*@-day*@/7*7-3)+act*(trade-fear)", "gain decree*(sky-4)+act*#-wet*fear",
+                "gain act*(wet*20-7)*(trade-#)-decree*#", "gain 0-#*act-trade*wet",
+                "gain (1-2*decree)*(day*@-day*@/5*5-2)", "gain (2*decree-1)*(sky*@-sky*@/10*10-#)+wet*#"},
+            {"fine act*#*(1-decree)+day/9", "fine (trade+day-(trade+day)/3*3)*decree*#", "fine act*fear+decree*#",
+                "fine 900+day*#*act"},
+            {"appeal hats>#/2", "appeal hats=#/3 or decree=1 and sky<#", "appeal trade=# or hats>fear/2",
+                "appeal sky>#+1 and decree=0"},
+            {"toll -others*#+mine*#", "toll (2*mine-1)*(others*#-#)*(province+1)", "toll mine*others*#-day",
+                "toll (province-1)*others*#+mine*(day-15)"},
+        };
+
+        /** A law by which it makes a difference what is stamped, seen and done. */
+        String telling() {
+            List<String[]> clauses = new ArrayList<>(List.of(TELLING));
+            java.util.Collections.shuffle(clauses, random);
+            for (String[] clause : clauses) {
+                String drawn = one(clause).replace("@", "" + (1 + random.nextInt(9)));
+                if (random.nextInt(8) > 0) {
+                    for (char c : drawn.toCharArray()) {
+                        out.append(c == '#' ? (char) ('0' + random.nextInt(10)) : c);
+                    }
+                    out.append(one(";", " ;\n", "; "));
+                }
+            }
+            out.setLength(Math.min(300, out.length()));
+            return out.toString();
+        }
+
         String text() {
+            if (random.nextInt(5) < 3) {
+                return telling();
+            }
             List<String> clauses = new ArrayList<>(
                     List.of("warrant", "does", "gain", "fine", "appeal", "toll"));
             java.util.Collections.shuffle(clauses, random);
@@ -912,11 +950,15 @@ public final class ModelTests {
             }
         }
 
-        /** About as many open around one another as may be, often one too many. */
+        /** About as many open around one another as may be, often one too many, some with sums waiting at each. */
         private void deep(String clause) {
             int brackets = 0;
+            boolean waiting = random.nextBoolean();
             for (int i = 5 + random.nextInt(4); i >= 0; i--) {
-                boolean bracket = random.nextBoolean();
+                boolean bracket = waiting || random.nextBoolean();
+                if (waiting) {
+                    out.append(random.nextInt(10)).append(one("+", "-")).append(random.nextInt(4)).append(one("*", "/"));
+                }
                 put(bracket ? "(" : "-");
                 brackets += bracket ? 1 : 0;
             }
@@ -1074,7 +1116,7 @@ public final class ModelTests {
                     same("by(" + t + ")", x.by(t), m.by(t));
                 }
                 case 10, 11 -> {
-                    int to = random.nextInt(3) == 0 ? 29 : near(30);
+                    int to = random.nextInt(3) == 0 ? 29 : dayFrom(d);
                     same("warrant(" + d + ", " + to + ")", x.warrant(d, to), m.warrant(d, to));
                 }
                 case 12 -> {
@@ -1109,9 +1151,20 @@ public final class ModelTests {
             }
         }
 
+        /** Mostly one where somebody is. */
+        int province() {
+            int folk = m.s.folk.size();
+            return folk == 0 || random.nextInt(3) == 0 ? near(4) : m.s.folk.get(random.nextInt(folk))[0];
+        }
+
+        /** Mostly a day that is not ahead of the first one. */
+        int dayFrom(int first) {
+            return random.nextInt(4) == 0 ? near(30) : Math.min(29, Math.max(0, first) + random.nextInt(12));
+        }
+
         void ask() {
             int d = near(30);
-            int p = near(4);
+            int p = province();
             int who = near(Math.max(1, m.s.folk.size()));
             int what = near(2);
             int i = orNone(5);
@@ -1130,7 +1183,7 @@ public final class ModelTests {
                 case 5, 6 -> same("gain(" + who + ", " + d + ", " + paper + ")", x.gain(who, d, paper),
                         m.gainOf(who, d, paper));
                 case 7 -> {
-                    int to = near(30);
+                    int to = dayFrom(d);
                     int w = random.nextBoolean() ? -1 : who;
                     same("sum(" + w + ", " + d + ", " + to + ", " + paper + ")", x.sum(w, d, to, paper),
                             m.sum(w, d, to, paper));

@@ -187,6 +187,41 @@ public final class PromiseTests extends Checks {
         due(10, "and all of it counts", y.gain(0, 0, false), 147);
     }
 
+    /** What was read into a TEXT's place ahead of it leaves nothing behind: with a fault, or gone by going back. */
+    private static void textInAPlaceUsedBefore() {
+        WarrantWeather x = new WarrantWeather();
+        x.folk(0, 0, 0);
+        for (int i = 0; i < 4; i++) {
+            due(10, "long ones with a fault", text(x, "gain 1" + "+1".repeat(147)), NONE);
+        }
+        due(10, "a long one without", text(x, "gain 1" + "+1".repeat(146) + ";"), 0);
+        x.by(0);
+        due(18, "all of it counts", x.gain(0, 0, false), 147);
+        WarrantWeather y = new WarrantWeather();
+        y.folk(0, 0, 0);
+        due(10, "with a fault at the end", text(y, "toll 5; warrant sky=1; does 1=1; gain 9; !"), NONE);
+        due(10, "of one clause", text(y, "fine 3;"), 0);
+        y.by(0);
+        due(27, "its number", y.reform(0) * 100 + y.reform(1), 90);
+        due(14, "no warrant", y.letGo(), NONE);
+        due(18, "no gain", y.gain(0, 0, false), -3);
+        due(17, "nor does", y.on(0, 0, 0), 0);
+        due(25, "nor toll", y.even(0, NONE), 16);
+        WarrantWeather z = new WarrantWeather();
+        z.folk(0, 0, 0);
+        z.image();
+        z.by(text(z, "toll mine; warrant sky=1; does 1=1; gain 9; appeal 1=1; fine 1;"));
+        z.back();
+        due(31, "gone", z.about(2) * 10 + z.about(3), NONE);
+        due(10, "in its place", text(z, "gain -1; fine 3;"), 0);
+        due(14, "none rules", z.letGo(), NONE);
+        z.by(0);
+        due(27, "its number", z.reform(0) * 100 + z.reform(1), 190);
+        due(18, "no appeal", z.gain(0, 0, false), -4);
+        due(25, "no toll", z.even(0, NONE), 16);
+        due(13, "no warrant", z.warrant(0, 29), NONE);
+    }
+
     private static void faultsByGrammar() {
         fault("", 0, NONE);
         fault(" \n ", 0, NONE);
@@ -490,6 +525,19 @@ public final class PromiseTests extends Checks {
         due(17, "fine by act and decree", y.on(0, 1, 1), 6);
         y.by(NONE);
         due(17, "without a text", y.on(0, 1, 0) + y.on(0, 1, 1) + y.on(0, 1, 2), 0);
+        WarrantWeather z = ruledBy("does trade+fear=6; fine trade*10+fear; appeal trade=1 or fear=9;");
+        z.folk(0, 1, 5);
+        z.folk(0, 2, 9);
+        z.folk(0, 3, 3);
+        int[] does = {1, 0, 1};
+        int[] appeals = {1, 1, 0};
+        int[] fines = {0, 0, 33};
+        for (int who = 0; who < 3; who++) {
+            due(17, "each by its own: does", z.on(who, 0, 0), does[who]);
+            due(17, "each by its own: appeal", z.on(who, 0, 2), appeals[who]);
+            due(17, "each by its own: fine", z.on(who, 0, 1), fines[who]);
+            due(18, "each by its own: gain", z.gain(who, 0, true), -fines[who]);
+        }
     }
 
     private static void gain() {
@@ -666,6 +714,27 @@ public final class PromiseTests extends Checks {
         due(23, "all wet", z.plan(2, 20, 10, 9), 1);
         due(23, "fewer days behind more", z.plan(2, 20, 3, NONE), 6);
         due(23, "another province behind it", z.plan(1, 20, 3, NONE), 3);
+    }
+
+    /** Which DAYS are alike for the clerk: by the SKY of the very DAY ahead, and by last and seen both. */
+    private static void planByLastAndSeen() {
+        WarrantWeather x = ruledBy("gain (2*decree-1)*(day/5*2-1);", 1, 0, 0, 0);
+        // Wet is worth 1 on day 5, sunny on days 3 and 4; all seen are 0, and 001 is not to be had.
+        due(23, "all alike", x.plan(0, 3, 3, NONE), 1);
+        x.sky(4, 1);
+        due(23, "day 5 has another seen", x.plan(0, 3, 3, NONE), 3);
+        due(23, "wet on it", x.plan(0, 3, 3, 0) * 100 + x.plan(0, 3, 3, 1) * 10 + x.plan(0, 3, 3, 2), 1);
+        x.sky(4, 0);
+        x.sky(5, 1);
+        x.sky(1, 1);
+        due(23, "not those of other days", x.plan(0, 3, 3, NONE), 1);
+        WarrantWeather y = ruledBy("gain (2*decree-1)*(1-2*(day-day/2*2));", 1, 0, 0, 0);
+        // Wet is worth 1 on even days: day 1 has last 1 and seen 0, day 2 last 0 and seen 1.
+        y.sky(1, 1);
+        due(23, "unlike by both", y.plan(0, 0, 3, NONE), 3);
+        due(23, "wet, sunny, wet", y.plan(0, 0, 3, 0) * 100 + y.plan(0, 0, 3, 1) * 10 + y.plan(0, 0, 3, 2), 101);
+        due(23, "wet and sunny in turn", y.plan(0, 4, 10, NONE), 10);
+        due(23, "on the last day sunny", y.plan(0, 4, 10, 9), 0);
     }
 
     private static void found() {
@@ -970,6 +1039,7 @@ public final class PromiseTests extends Checks {
         feed();
         end();
         text();
+        textInAPlaceUsedBefore();
         faultsByGrammar();
         faultsOfOpenOnes();
         faultsOfNames();
@@ -988,6 +1058,7 @@ public final class PromiseTests extends Checks {
         led();
         odds();
         plan();
+        planByLastAndSeen();
         found();
         even();
         flood();

@@ -533,6 +533,35 @@ public final class TermEdgeTests extends Checks {
         fault("does not not not not not not not not 1=-1;", 3, 39);
     }
 
+    /** So many of these parts around one another, ahead of 1 and then closed. */
+    private static String nested(String part, int times) {
+        return part.repeat(times) + "1" + ")".repeat(times);
+    }
+
+    /** What is open may have a SUM and a PRODUCT waiting at each level: all of it comes to its worth. */
+    private static void openedWorth() {
+        sentence("3 the 9th of ( not and - (of one ONE) that are open around one another (at it).");
+        // Each level is 1 more than twice the one in it: 3, 7, 15 .. 511.
+        for (int brackets = 0; brackets <= 8; brackets++) {
+            holds(nested("1+2*(", brackets) + "=" + ((2 << brackets) - 1));
+            holds(((2 << brackets) - 1) + "=" + nested("1+2*(", brackets));
+        }
+        holds("1=2 or 1=1 and " + nested("1+2*(", 8) + "=" + nested("1+2*(", 8));
+        holds("1=2 or 1=2 and 1=1 or 1=1 and 2=2 and 512>" + nested("1+2*(", 8));
+        holds("1=2 or 1=1 and not " + nested("1+2*(", 7) + "#255");
+        // As many as can wait for one another: an or, an and, an ASK, and at nine levels a SUM and a PRODUCT.
+        holds("1=2 or 1=1 and 255=" + "1+2*(".repeat(8) + "1-1*1" + ")".repeat(8));
+        // Each level is 3 less the one in it: 2, 1, 2, 1 ..
+        holds(nested("3-(", 8) + "=1 and " + nested("3-(", 7) + "=2");
+        // Each level is 1 less twice the one in it: -1, 3, -5, 11; less minus twice it: 3, 7, 15.
+        holds(nested("1-2*(", 4) + "=11 and " + nested("1--2*(", 3) + "=15");
+        holds("1--2*-(" + nested("1+2*(", 6) + ")=-253");
+        holds(nested("-(", 4) + "=1 and " + nested("-(", 3) + "=-1 and " + nested("2*-(", 4) + "=16");
+        // From the left at each level: 7 / 2 * is 3 times, and 7 - 9 + is -2 and.
+        holds(nested("7/2*(", 8) + "=6561 and " + nested("7-9+(", 8) + "=-15");
+        holds(nested("9*(", 8) + "=1000*1000 and -" + nested("9*(", 7) + "=-1000*1000");
+    }
+
     private static void rules() {
         sentence("THE TEXT (told; at first none) rules.");
         WarrantWeather x = new WarrantWeather();
@@ -1010,6 +1039,7 @@ public final class TermEdgeTests extends Checks {
         ends();
         places();
         opened();
+        openedWorth();
         rules();
         does();
         fines();
